@@ -212,6 +212,12 @@ public final class PromisesTest {
         due("cores: half and half", x.cores(0, 1000), 1);
         due("cores: low rounded down of 15.5", x.look(1, 3), 15);
         due("cores: high 19", x.look(1, 4), 19);
+        PencilWorks y = new PencilWorks();
+        y.earth(10, 10, 1, 9);
+        y.earth(11, 11, 1, 1);
+        y.cores(0, 1000);
+        due("cores: low rounded down of 10.1", y.look(0, 3), 10);
+        due("cores: high rounded up of 10.1", y.look(0, 4), 11);
         due("cores: earth 0 is used up", x.bring(0, 0), 0);
         due("cores: earth 1 has ten", x.bring(1, 0), 10);
         due("cores without a blend", x.cores(0, 19), -1);

@@ -432,11 +432,29 @@ public final class ReferenceTest {
     /** A run's own ways: how tight hardnesses, prices and costs lie, so that ties and edges come often. */
     private final int wide;
     private int dearCalls;
+    /** Of 10 trials so many break: where most do, there is more to explain. */
+    private final int breaks;
 
     private ReferenceTest(long seed) {
         random = new Random(seed);
         int[] widths = {3, 12, 60, 1000};
         wide = widths[random.nextInt(widths.length)];
+        breaks = 4 + random.nextInt(6);
+    }
+
+    /** Twelve lots from the start, so that most of the run is batches, trials and what explains them. */
+    private int wrongAtStart() {
+        int wrong = fromWorks(0, new int[] {5, 9, 2, 1000}) == model.earth(5, 9, 2, 1000) ? 0 : 1;
+        int coreLots = 2 + random.nextInt(4);
+        int slatLots = 2 + random.nextInt(4);
+        for (int i = 0; i < 12; i++) {
+            int[] a = {i < coreLots + slatLots ? 1 : 2, 10000};
+            boolean isCore = i < coreLots;
+            int want = isCore ? model.cores(0, 1000) : model.lot(a[0], a[1]);
+            int got = isCore ? fromWorks(4, new int[] {0, 1000}) : fromWorks(5, a);
+            wrong += got == want ? 0 : 1;
+        }
+        return wrong;
     }
 
     private int draw(int least, int greatest) {
@@ -483,7 +501,7 @@ public final class ReferenceTest {
             case 7:
                 return new int[] {draw(0, model.lots.size() - 1), draw(0, 5)};
             case 8:
-                return new int[] {draw(0, model.batches.size() - 1), random.nextInt(2)};
+                return new int[] {draw(0, model.batches.size() - 1), random.nextInt(10) < breaks ? 1 : 0};
             case 9:
                 return new int[] {draw(0, model.trials.size() - 1)};
             case 10:
@@ -603,8 +621,8 @@ public final class ReferenceTest {
     }
 
     private int wrongAnswers(int run) {
-        int wrong = 0;
-        for (int i = 0; i < CALLS; i++) {
+        int wrong = run % 2 == 0 ? 0 : wrongAtStart();
+        for (int i = 0; i < CALLS - 13; i++) {
             int method = drawMethod();
             int[] a = args(method);
             int want = fromModel(method, a);
