@@ -228,13 +228,16 @@ public final class GradeEdgesTest {
         Edges.due(y, 19, "most");
         // one slat for two grades: the dearer one has it, by 1, whichever came first and whichever asks for more
         int[][] leastAndWorthOfTwo = {{9, 999, 0, 1000}, {0, 999, 9, 1000}, {0, 1000, 9, 999}, {9, 1000, 0, 999}};
-        PencilWorks z = new PencilWorks();
-        z.slats(9, 1);
+        PencilWorks again = new PencilWorks();
         for (int[] two : leastAndWorthOfTwo) {
-            z.grade(two[0], two[1], 1);
-            z.grade(two[2], two[3], 1);
-            Edges.due(z, 1000, "most");
-            z.ungrade();
+            PencilWorks first = new PencilWorks();
+            again.ungrade();
+            for (PencilWorks z : new PencilWorks[] {first, again}) {
+                z.slats(9, 1);
+                z.grade(two[0], two[1], 1);
+                z.grade(two[2], two[3], 1);
+                Edges.due(z, 1000, "most");
+            }
         }
         // each grade keeps its own quality and its own room, though a dearer one comes behind it
         PencilWorks own = new PencilWorks();
