@@ -1,6 +1,5 @@
 import java.lang.reflect.Constructor;
 import java.lang.reflect.Field;
-import java.lang.reflect.Member;
 import java.lang.reflect.Method;
 import java.lang.reflect.Modifier;
 import java.util.Arrays;
@@ -9,12 +8,29 @@ import java.util.TreeSet;
 
 /** The face is the document's and nothing beside it, and calls that throw nothing make no objects. */
 public final class FaceTest {
+    /** With the exceptions that each names, in the document's order. */
     private static final String[] METHODS = {
-        "int earth(int, int, int, int)", "int bring(int, int)", "int blend(int, int)", "int parts(int, int, int)",
-        "int cores(int, int)", "int lot(int, int)", "int make(int, int, int, int)", "int look(int, int)",
-        "int trial(int, boolean)", "boolean undo(int)", "int days(int)", "int explain(int, int)",
-        "int slats(int, int)", "int grade(int, int, int)", "int ungrade()", "int most()",
-        "void change(int, int, int)", "int job(int)", "void on(int)", "int changes()", "int count(int)"};
+        "int earth(int, int, int, int) IllegalArgumentException UnsupportedOperationException",
+        "int bring(int, int) IndexOutOfBoundsException IllegalArgumentException",
+        "int blend(int, int) IllegalArgumentException",
+        "int parts(int, int, int) IndexOutOfBoundsException IllegalArgumentException",
+        "int cores(int, int) IllegalArgumentException",
+        "int lot(int, int) IllegalArgumentException UnsupportedOperationException",
+        "int make(int, int, int, int) IndexOutOfBoundsException IllegalArgumentException",
+        "int look(int, int) IndexOutOfBoundsException NoSuchElementException",
+        "int trial(int, boolean) IndexOutOfBoundsException",
+        "boolean undo(int) IndexOutOfBoundsException",
+        "int days(int) IllegalArgumentException",
+        "int explain(int, int) NoSuchElementException",
+        "int slats(int, int) IllegalArgumentException",
+        "int grade(int, int, int) IllegalArgumentException",
+        "int ungrade()",
+        "int most()",
+        "void change(int, int, int) IndexOutOfBoundsException IllegalArgumentException",
+        "int job(int) IndexOutOfBoundsException",
+        "void on(int) IndexOutOfBoundsException",
+        "int changes()",
+        "int count(int)"};
 
     private static int wrong = 0;
 
@@ -30,49 +46,58 @@ public final class FaceTest {
         for (Class<?> t : m.getParameterTypes()) {
             types.append(types.length() == 0 ? "" : ", ").append(t.getSimpleName());
         }
-        return m.getReturnType().getSimpleName() + " " + m.getName() + "(" + types + ")";
+        StringBuilder named = new StringBuilder();
+        for (Class<?> e : m.getExceptionTypes()) {
+            named.append(' ').append(e.getSimpleName());
+        }
+        return m.getReturnType().getSimpleName() + " " + m.getName() + "(" + types + ")" + named;
     }
 
     private static void membersAreTheFace() {
         Class<PencilWorks> c = PencilWorks.class;
         check(Modifier.isPublic(c.getModifiers()) && Modifier.isFinal(c.getModifiers()), "the class is public and final");
+        check(c.getSuperclass() == Object.class && c.getInterfaces().length == 0, "the class is of no other one");
         Set<String> found = new TreeSet<>();
         for (Method m : c.getDeclaredMethods()) {
-            if (!Modifier.isPrivate(m.getModifiers())) {
+            if (Modifier.isPrivate(m.getModifiers())) {
+                check(Arrays.stream(METHODS).noneMatch(f -> f.contains(" " + m.getName() + "(")),
+                    "named as one of the face: " + m);
+            } else {
                 check(Modifier.isPublic(m.getModifiers()) && !Modifier.isStatic(m.getModifiers()), "not public: " + m);
                 found.add(text(m));
             }
         }
         check(found.equals(new TreeSet<>(Arrays.asList(METHODS))), "the methods are " + found);
+        check(c.getDeclaredConstructors().length == 1, "there is one constructor");
         for (Constructor<?> k : c.getDeclaredConstructors()) {
-            check(Modifier.isPublic(k.getModifiers()) && k.getParameterCount() == 0, "a constructor too many: " + k);
+            check(Modifier.isPublic(k.getModifiers()) && k.getParameterCount() == 0
+                && k.getExceptionTypes().length == 0, "not the document's constructor: " + k);
         }
         for (Field f : c.getDeclaredFields()) {
             check(Modifier.isPrivate(f.getModifiers()) || f.getName().equals("NONE"), "a field too many: " + f);
             check(!Modifier.isStatic(f.getModifiers()) || Modifier.isFinal(f.getModifiers()), "not final: " + f);
         }
+        check(Arrays.stream(c.getDeclaredFields()).anyMatch(FaceTest::isNone), "public static final int NONE = -1");
     }
 
-    private static void insideIsPlain() {
+    private static boolean isNone(Field f) {
+        int all = Modifier.PUBLIC | Modifier.STATIC | Modifier.FINAL;
+        return f.getName().equals("NONE") && f.getType() == int.class && f.getModifiers() == all
+            && PencilWorks.NONE == -1;
+    }
+
+    /** LANGUAGE rule 1. What else it says of the classes inside, LanguageTest looks at. */
+    private static void insideIsApart() {
         Set<String> face = new TreeSet<>();
         for (String m : METHODS) {
             face.add(m.substring(m.indexOf(' ') + 1, m.indexOf('(')));
         }
-        check(PencilWorks.class.getDeclaredClasses().length <= 11, "too many classes");
         for (Class<?> inside : PencilWorks.class.getDeclaredClasses()) {
-            check(Modifier.isStatic(inside.getModifiers()), "not static: " + inside);
             check(!Modifier.isPublic(inside.getModifiers()), "public: " + inside);
             for (Method m : inside.getDeclaredMethods()) {
                 check(!face.contains(m.getName()), "named as one of the face: " + m);
-                check(m.getParameterCount() <= 7, "too many parameters: " + m);
             }
-            check(Arrays.stream(inside.getDeclaredFields()).filter(FaceTest::isOfObject).count() <= 20,
-                "too many fields: " + inside);
         }
-    }
-
-    private static boolean isOfObject(Member m) {
-        return !Modifier.isStatic(m.getModifiers());
     }
 
     private static int useAll(PencilWorks x) {
@@ -124,7 +149,7 @@ public final class FaceTest {
 
     public static void main(String[] args) {
         membersAreTheFace();
-        insideIsPlain();
+        insideIsApart();
         callsMakeNothing();
         System.out.println(wrong == 0 ? "the face is as due" : wrong + " faults of the face");
         if (wrong != 0) {

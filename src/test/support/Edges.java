@@ -23,6 +23,10 @@ final class Edges {
     private static final int[][] GRADES_TO_SEE = {
         {0, 1000}, {0, 0}, {1000, 1000}, {0, 10}, {5, 20}, {0, 115}, {100, 150}, {150, 1000}, {500, 1000}};
 
+    private static final String[] COUNTED = {
+        "TODAY", "EARTHS", "LOTS", "BATCHES", "pencils", "TRIALS", "slats", "grades", "JOBS", "COLOUR"};
+    private static final String[] ASKED = {"blends", "lots", "known", "most", "changes"};
+
     private static final Map<String, Method> METHODS = methodsByName();
     private static String sentence = "";
     private static int sentences = 0;
@@ -94,6 +98,11 @@ final class Edges {
         check(text(name, args), answer(x, name, args), Long.toString(want));
     }
 
+    /** The call throws just this exception; what it leaves is for the calls behind it to show. */
+    static void dueThrow(PencilWorks x, Class<?> want, String name, int... args) {
+        check(text(name, args), answer(x, name, args), want.getName());
+    }
+
     /** The call throws just this exception, and leaves the object as its twin is, on which it was not made. */
     static void refused(Supplier<PencilWorks> state, Class<?> want, String name, int... args) {
         withoutTrace(state, want.getName(), name, args);
@@ -118,6 +127,52 @@ final class Edges {
             fault(text(name, args) + " left a trace: " + seen.subList(at, Math.min(at + 1, seen.size()))
                 + ", due is " + due.subList(at, Math.min(at + 1, due.size())));
         }
+    }
+
+    /**
+     * The call answers, and of all that is seen of the object just this is changed by it, in this order: what count
+     * tells ("TODAY EARTHS LOTS BATCHES pencils TRIALS slats grades JOBS COLOUR"), then what other calls tell of
+     * "blends lots known most changes".
+     */
+    static void changesOnly(Supplier<PencilWorks> state, String want, long answer, String name, int... args) {
+        due(state.get(), answer, name, args);
+        StringBuilder changed = new StringBuilder();
+        for (int what = 0; what < COUNTED.length; what++) {
+            PencilWorks x = state.get();
+            answer(x, name, args);
+            if (x.count(what) != state.get().count(what)) {
+                changed.append(' ').append(COUNTED[what]);
+            }
+        }
+        for (int what = 0; what < ASKED.length; what++) {
+            PencilWorks x = state.get();
+            answer(x, name, args);
+            if (!asked(what, x).equals(asked(what, state.get()))) {
+                changed.append(' ').append(ASKED[what]);
+            }
+        }
+        check(text(name, args) + ", of what it changes,", changed.toString().trim(), want);
+    }
+
+    private static List<String> asked(int what, PencilWorks x) {
+        List<String> seen = new ArrayList<>();
+        switch (what) {
+            case 0:
+                seeEarths(seen, x);
+                break;
+            case 1:
+                seeLots(seen, x);
+                break;
+            case 2:
+                seeTrials(seen, x, 0, 4, 5, 6, 7, 8, GREATEST_INT);
+                break;
+            case 3:
+                seeGrades(seen, x);
+                break;
+            default:
+                seeMachine(seen, x);
+        }
+        return seen;
     }
 
     /**
@@ -156,7 +211,8 @@ final class Edges {
         }
         seeEarths(seen, x);
         seeLots(seen, x);
-        seeTrials(seen, x);
+        int today = x.count(0);
+        seeTrials(seen, x, 0, today - 1, today, GREATEST_INT);
         seeGrades(seen, x);
         seeMachine(seen, x);
         return seen;
@@ -186,9 +242,8 @@ final class Edges {
         }
     }
 
-    private static void seeTrials(List<String> seen, PencilWorks x) {
-        int today = x.count(0);
-        for (int day : new int[] {0, today - 1, today, GREATEST_INT}) {
+    private static void seeTrials(List<String> seen, PencilWorks x, int... days) {
+        for (int day : days) {
             for (int what = 0; what <= 2; what++) {
                 see(seen, x, "explain", day, what);
             }
